@@ -19,7 +19,7 @@ public final class WallHands {
     private static final int PLAIN = 0, TEMPER = 1, LOVER = 2, STRIKER = 3;
     private static final String MOODS = "ptls";
     private static final long FIRST_COLUMN = 0x0101010101L, LAST_COLUMN = FIRST_COLUMN << 7;
-    private static final long FIRST_COURSE = 0xFFL, EVERYWHERE = (1L << PLACES) - 1;
+    private static final long FIRST_COURSE = 0xFFL, EVERYWHERE = -1L;
 
     private final Text wallText = new Text(WALL_ROOM), handsText = new Text(HANDS_ROOM);
     private final Wall wall = new Wall();
@@ -1015,16 +1015,14 @@ public final class WallHands {
             return mended;
         }
 
+        /** The lowest empty place is in course 0 or right above a stone, so it is always borne. */
         private boolean fillGap(int column, int hand) {
             for (int course = 0; course < wall.courses; course++) {
                 long gap = 1L << COLUMNS * course + column;
                 if ((all & gap) == 0) {
-                    boolean borne = (borneOf(all | gap) & gap) != 0;
-                    if (borne) {
-                        now[hand] |= gap;
-                        all |= gap;
-                    }
-                    return borne;
+                    now[hand] |= gap;
+                    all |= gap;
+                    return true;
                 }
             }
             return false;

@@ -110,6 +110,8 @@ public final class PromisesTest {
         due("wipe 1 leaves 0", x.count(2), 5);
         due("hands are gone", x.count(1), 0);
         due("wipe 0", x.wipe(0), 5);
+        due("no fault behind wipe", x.fault(0), NONE);
+        due("no fault behind wipe", x.fault(1), NONE);
         due("stones are gone", x.count(0), 0);
         due("wipe empty", x.wipe(0), 0);
         due("type behind wipe", x.type(0, 'c'), 1);
@@ -128,6 +130,18 @@ public final class PromisesTest {
         due("undo on", x.undo(0), 1);
         due("undo to none", x.undo(0), 0);
         due("undo empty", x.undo(0), NOT);
+        WallHands told = wall("ab", "p5;p5");
+        told.frost(0, 4);
+        due("two stand", told.column(0, 1, 0), 1);
+        told.undo(0);
+        due("one is undone", told.column(0, 1, 0), BAD);
+        tell(told, 0, "b");
+        due("and told again", told.column(0, 1, 0), 1);
+        for (int i = 0; i < 3; i++) told.undo(1);
+        due("a hand undone does not hold", told.column(0, 1, 0), 0);
+        told.back(0);
+        due("it stands without frost", told.at(0, 0, 1, 0), 1);
+        due("it holds 0", told.at(0, 0, 1, 1), 0);
     }
 
     private static int faultOf(int text, String bytes) {
@@ -320,6 +334,12 @@ public final class PromisesTest {
         due("plain: three of its hand", middle.at(0, 1, 1, 1), 6);
         due("plain: not borne is gone", plain.at(0, 1, 0, 1), NONE);
         due("plain: four", wall("aaa;aaa;aaa", "p9").at(0, 1, 1, 1), 13);
+        due("plain: left and right", wall("aaa", "p3").at(0, 0, 1, 1), 5);
+        due("plain: below and above", wall("a;a;a", "p3").at(0, 1, 0, 1), 5);
+        due("plain: left and below", wall("aa;aa", "p3").at(0, 1, 1, 1), 5);
+        due("plain: below, above, left", wall("ab;aa;ab", "p3;p1").at(0, 1, 0, 1), 6);
+        due("plain: below, left, right", wall("aaa;aaa", "p3").at(0, 1, 1, 1), 6);
+        due("an eighth hand", wall("ah;ah", "p1;p1;p1;p1;p1;p1;p1;t8").at(0, 0, 1, 1), 8);
         due("temper: three like, one other", wall("aba;aaa;.a.", "t3;p2").at(0, 1, 1, 1), 5);
         due("temper: four others", wall("bbb;bab;bbb", "t3;p2").at(0, 1, 1, 1), 0);
         due("temper: others not told", wall("hhh;hah;hhh", "t6").at(0, 1, 1, 1), 2);
@@ -365,6 +385,11 @@ public final class PromisesTest {
         just.frost(2, 6);
         due("one more", just.at(2, 0, 0, 0), NONE);
         due("ahead of it", just.at(1, 0, 0, 0), 0);
+        WallHands earlier = wall("ab", "t5;p1");
+        earlier.frost(4, 2);
+        due("holds later", earlier.at(4, 0, 0, 1), 5);
+        due("holds earlier", earlier.at(3, 0, 0, 1), 4);
+        due("holds later again", earlier.at(19, 0, 0, 1), 5);
         // borne by two that are left and right of it; what stands on it goes with it
         WallHands bridge = wall("a.a;.a.;.a.", "p1");
         due("a bridge stands", bridge.at(0, 2, 1, 0), 0);
@@ -459,6 +484,13 @@ public final class PromisesTest {
         for (int i = 0; i < 4; i++) x.gapping(10, i % 2, 0);
         due("sheep first as ever", x.sheep(0), 7);
         due("sheep until mended", x.sheep(1), 3);
+        due("sheep from year 0 on", wall("a;.", "p1").sheep(0), 0);
+        WallHands one = wall("a;b", "p9;p1");
+        one.frost(6, 2);
+        due("sheep by one that falls", one.sheep(1), 14);
+        WallHands eight = wall("hg", "p1;p1;p1;p1;p1;p1;l1;t8");
+        due("sheep at the seventh hand", eight.column(0, 1, 1), 1);
+        due("no sheep at the eighth", eight.column(0, 0, 1), 0);
     }
 
     private static void p17Mine() {
@@ -497,6 +529,14 @@ public final class PromisesTest {
         for (int i = 0; i < 6; i++) x.gapping(19, 0, 0);
         due("mend whatever room", x.mend(4, 2), 4);
         due("mend keeps gappings", x.count(5), 6);
+        WallHands frosty = wall("aa;aa", "p3;p9");
+        frosty.frost(2, 9);
+        due("mend behind a frost", frosty.mend(2, 2), 18);
+        frosty.gapping(2, 0, 0);
+        frosty.gapping(2, 0, 0);
+        frosty.gapping(2, 1, 0);
+        due("mend the last gap", frosty.mend(5, 0), 1);
+        due("mend the last gap", frosty.mend(5, 2), 3);
         WallHands high = wall("aaa;a.a", "l5;l5;t5");
         due("a lover's high place is through", high.mend(4, 2), 20);
         WallHands temper = wall("b;.", "p5;p3;t5");
@@ -681,6 +721,26 @@ public final class PromisesTest {
         due("ask of none", x.ask(0), 0);
         due("ask keeps", x.hand(0, 1), 3);
         due("ask of another", x.ask(1), 0);
+        WallHands first = wall("a", "p3");
+        first.frost(0, 5);
+        due("ask behind year 0", first.ask(0), 0);
+        first.frost(1, 6);
+        due("ask of like ones the least", first.ask(0), 0);
+        WallHands second = wall("a", "p3");
+        second.frost(0, 3);
+        second.frost(1, 5);
+        second.frost(2, 7);
+        due("ask behind year 1", second.ask(0), 1);
+        WallHands last = wall("a", "p3");
+        last.frost(0, 8);
+        last.frost(19, 9);
+        last.seen(0, 0, 0, 0);
+        due("ask behind year 19", last.ask(0), 19);
+        // year 0 parts strengths by what stands on the hand's stone, though it has but one itself
+        WallHands bearing = wall("a.;b.;b.", "p3;p9");
+        bearing.frost(0, 4);
+        due("ask: stones of all hands", bearing.ask(0), 0);
+        due("ask of the other", bearing.ask(1), 0);
     }
 
     private static void p28Luck() {
@@ -915,8 +975,27 @@ public final class PromisesTest {
         due("digest", before, asDocumentSays(x, 4));
         x.sheet(0, 0, -1);
         due("digest without count 8", x.digest(), before);
+        // something happens in each year that the document names, and in those beside it
+        WallHands years = wall("aabbcd;ddccba;aabbcd", "p4;t8;l5;p7");
+        int[][] frosts = {{4, 4}, {5, 5}, {9, 6}, {10, 7}, {18, 8}, {19, 9}};
+        for (int[] frost : frosts) years.frost(frost[0], frost[1]);
+        int[][] gappings = {{4, 2, 1}, {5, 3, 0}, {6, 1, 3}, {9, 4, 2}, {18, 5, 1}, {19, 0, 1}};
+        for (int[] gapping : gappings) years.gapping(gapping[0], gapping[1], gapping[2]);
+        due("digest of years", years.digest(), asDocumentSays(years, 6));
+        WallHands mending = wall("ab;a.", "t1;p9");
+        mending.frost(2, 3);
+        mending.frost(3, 4);
+        due("digest of a mending", mending.digest(), asDocumentSays(mending, 2));
+        WallHands lucky = wall("aabb;aabb", "p9;p8");
+        for (int force = 10; force <= 12; force++) lucky.frost(force - 8, force);
+        due("digest of luck", lucky.digest(), asDocumentSays(lucky, 4));
         x.type(0, 'x');
         due("digest with a fault", x.digest(), asDocumentSays(x, 0));
+        // a number from the shared tests
+        WallHands told = wall("aab;bab", "p4;t6");
+        told.frost(1, 6);
+        told.frost(7, 5);
+        due("digest as told elsewhere", told.digest(), -8033584746172725834L);
     }
 
     private static long h;
