@@ -782,6 +782,16 @@ public final class PromisesTest {
         x.frost(0, 15);
         due("ages in place of those told", x.ages(1, 0, 0), 4);
         due("ages in place of those told", x.ages(1, 0, 1), 0);
+        WallHands aging = wall("a", "p6");
+        aging.jump(1);
+        aging.gapping(12, 0, 0);
+        // by seed 7: year 12 force 12, 8 10, 11 14, 14 6, 5 2, 13 7
+        due("ages: year 12", aging.ages(7, 1, 1), 0);
+        due("ages: year 8", aging.ages(7, 2, 1), 4);
+        due("ages: five", aging.ages(7, 5, 1), 4);
+        due("ages: year 13", aging.ages(7, 6, 1), 11);
+        due("ages: five stand", aging.ages(7, 5, 0), 1);
+        due("ages: six stand", aging.ages(7, 6, 0), 0);
         for (int seed : new int[] {0, 1, -1, LEAST, MOST, 12345, 777}) {
             for (int n = 1; n <= 6; n++) {
                 WallHands y = wall("ab;ba", "p7;s6");
@@ -989,6 +999,15 @@ public final class PromisesTest {
         WallHands lucky = wall("aabb;aabb", "p9;p8");
         for (int force = 10; force <= 12; force++) lucky.frost(force - 8, force);
         due("digest of luck", lucky.digest(), asDocumentSays(lucky, 4));
+        // by seed 7 the fifth frost is in year 5, of force 2, a sixth would be in year 13, of force 7
+        WallHands aging = wall("ab;a.", "p6;p1");
+        aging.jump(1);
+        aging.gapping(12, 0, 0);
+        aging.gapping(12, 1, 0);
+        due("digest of ages", aging.digest(), asDocumentSays(aging, 2));
+        WallHands holed = wall("aaa;a.a", "l5;p5");
+        for (int year = 4; year <= 6; year++) holed.frost(year, year + 1);
+        due("digest of a hole", holed.digest(), asDocumentSays(holed, 3));
         x.type(0, 'x');
         due("digest with a fault", x.digest(), asDocumentSays(x, 0));
         // a number from the shared tests
