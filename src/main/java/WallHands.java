@@ -161,7 +161,7 @@ public final class WallHands {
         if (sheet.form == LOST) {
             return found(NULL);
         }
-        frosts.told = 0;
+        int before = frosts.told;
         for (int i = 0; i + 1 < sheet.size && frosts.told < MOST_FROSTS; i += 2) {
             if (!Frosts.mayBe(sheet.items[i], sheet.items[i + 1])) {
                 break;
@@ -169,7 +169,7 @@ public final class WallHands {
             frosts.add(sheet.items[i], sheet.items[i + 1]);
         }
         toldIsStale = true;
-        return frosts.told;
+        return frosts.told - before;
     }
 
     // ---- years

@@ -151,14 +151,15 @@ public final class PlainWall {
     public int read(int s) {
         if (s < 0 || s > 3) return -2;
         if (sheets[s] == null) return found(1);
-        frosts.clear();
+        int came = 0;
         int n = java.lang.reflect.Array.getLength(sheets[s]);
         for (int i = 0; i + 2 <= n; i += 2) {
             int year = java.lang.reflect.Array.getInt(sheets[s], i);
             int force = java.lang.reflect.Array.getInt(sheets[s], i + 1);
             if (frost(year, force) < 0) break;
+            came++;
         }
-        return frosts.size();
+        return came;
     }
 
     // ---- years

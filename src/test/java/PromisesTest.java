@@ -296,23 +296,71 @@ public final class PromisesTest {
         due("read frosts", x.count(4), 2);
         due("read falls", x.falls(5), 1);
         due("read keeps the sheet", x.get(0, 2, 4), 9);
-        fill(x, 1, 1, 6, 3, 8, 4);
-        due("read in place of those told", x.read(1), 2);
-        due("read anew", x.count(4), 2);
-        due("read anew: not 5", x.falls(5), 0);
-        due("read anew: but 8", x.falls(8), 1);
+        x = wall("a", "p3");
         fill(x, 2, 0, 1, 1, 20, 1, 2, 2);
         due("read as long as each may be: year", x.read(2), 1);
         fill(x, 2, 0, 1, 1, 2, 2, 3, 0, 2, 2);
         due("read as long as each may be: force", x.read(2), 2);
+        due("read both", x.count(4), 3);
+        x = wall("a", "p3");
         fill(x, 2, 0, 0, 1, 1, 1, 2, 1, 3, 1, 4, 1, 5, 1, 6, 1);
         due("read six", x.read(2), 6);
+        due("read six frosts", x.count(4), 6);
+        x = wall("a", "p3");
         fill(x, 2, 0, 3);
         due("read no whole one", x.read(2), 0);
         x.sheet(3, 2, 0);
         due("read empty", x.read(3), 0);
         fill(x, 2, 0, 3, 200);
         due("read a byte below 0", x.read(2), 0);
+        due("read none at all", x.count(4), 0);
+        p12ReadBehindFrosts();
+    }
+
+    /** Frosts told before stay told, ahead of those that are read. */
+    private static void p12ReadBehindFrosts() {
+        WallHands x = wall("a", "p3");
+        x.frost(5, 4);
+        x.gapping(6, 0, 0);
+        due("told: falls", x.falls(5), 1);
+        x.sheet(0, 0, 0);
+        due("nothing to read", x.read(0), 0);
+        due("nothing to read: still told", x.count(4), 1);
+        due("nothing to read: still falls", x.falls(5), 1);
+        due("nothing to read: never", x.never(), 1);
+        fill(x, 0, 1, 6, 3, 8, 4);
+        due("read behind one", x.read(0), 2);
+        due("read behind one: all", x.count(4), 3);
+        due("read behind one: it falls", x.falls(5), 1);
+        due("read behind one: theirs falls", x.falls(8), 1);
+        due("the last is undone", x.back(0), 2);
+        due("the last undone was read", x.falls(8), 0);
+        due("the told one is first", x.back(0) + x.back(0), 1);
+        due("the told one is undone", x.falls(5), 0);
+
+        x.frost(5, 4);
+        fill(x, 0, 0, 20, 1, 8, 4);
+        due("read one that may not be", x.read(0), 0);
+        due("one that may not be: still told", x.count(4), 1);
+        due("one that may not be: still falls", x.falls(5), 1);
+        fill(x, 0, 0, 8, 4, 9, 16, 10, 4);
+        due("read up to one that may not be", x.read(0), 1);
+        due("up to one that may not be: all", x.count(4), 2);
+
+        fill(x, 0, 2, 1, 1, 2, 1, 3, 1, 4, 1, 5, 1);
+        due("read up to six", x.read(0), 4);
+        due("up to six: all", x.count(4), 6);
+        due("read at six", x.read(0), 0);
+        due("at six: all", x.count(4), 6);
+        due("at six: still falls", x.falls(5) + x.falls(8), 2);
+        due("read lost at six", x.read(1), NULL);
+        due("lost at six: all", x.count(4), 6);
+
+        x = wall("ab", "p3;p5");
+        fill(x, 3, 0, 4, 6);
+        x.frost(4, 4);
+        due("read twice", x.read(3) + x.read(3), 2);
+        due("read twice: all", x.count(4), 3);
     }
 
     private static void p13At() {

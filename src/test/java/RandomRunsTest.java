@@ -104,6 +104,7 @@ public final class RandomRunsTest {
             if (fault == null) fault = make("type", 1, "ptls".charAt(random.nextInt(4)));
             if (fault == null) fault = make("type", 1, '1' + random.nextInt(9));
         }
+        if (fault == null && random.nextInt(3) == 0) fault = readSome();
         int frosts = random.nextInt(4), gappings = random.nextInt(4);
         for (int i = 0; i < frosts && fault == null; i++) {
             fault = make("frost", random.nextInt(4) * 5, 1 + random.nextInt(9));
@@ -112,6 +113,19 @@ public final class RandomRunsTest {
             fault = make("gapping", random.nextInt(20), random.nextInt(columns), random.nextInt(hands));
         }
         return fault != null ? fault : seeSome(columns, courses);
+    }
+
+    /** Fills a sheet, mostly by frosts that may be, and reads it; frosts told before may go first. */
+    private String readSome() throws Exception {
+        String fault = null;
+        while (fault == null && plain.count(4) > 0 && random.nextInt(4) != 0) fault = make("back", 0);
+        int s = random.nextInt(4), form = random.nextInt(3), n = random.nextInt(9);
+        if (fault == null) fault = make("sheet", s, form, n);
+        for (int i = 0; i < n && fault == null; i++) {
+            int most = random.nextInt(9) == 0 ? 25 : 15;
+            fault = make("put", s, form, i, i % 2 == 0 ? random.nextInt(most + 5) : 1 + random.nextInt(most));
+        }
+        return fault != null ? fault : make("read", s);
     }
 
     /** Sees what is so, for the most part, so that not all comes out empty. */
