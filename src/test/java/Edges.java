@@ -199,6 +199,17 @@ final class Edges {
         leaves(what + " of nothing", Edges::nothing, call, call.on(new WallHands()), 0);
     }
 
+    /** What is told shows at once, also where all was asked and answered before. */
+    static void showsAtOnce(String what, Consumer<WallHands> story, Call call) {
+        for (int look = 0; look < LOOKS; look++) {
+            WallHands asked = made(story), other = made(story);
+            asked.digest();
+            due(what, call.on(asked), call.on(other));
+            List<Long> got = look(asked, look), want = look(other, look);
+            due(what + " does not show at once (look " + look + ")", got.equals(want) ? 0 : 1, 0);
+        }
+    }
+
     private static final int LOOKS = 5;
 
     /** One way to look at all that an object holds; it may be used up by that. */

@@ -440,5 +440,9 @@ public final class EdgesOfSeenTest {
         gapped.gapping(19, 0, 0);
         due("gappings are as told: how many", gapped.ages(0, 0, 0), 2);
         due("gappings are as told: sheep", gapped.ages(0, 0, 1), 19);
+        WallHands again = wall("a", "p9");
+        due("six by seed 0", again.ages(0, 6, 0), 0);
+        due("none behind that", again.ages(0, 0, 0), 1);
+        due("one behind that, of force 7", again.ages(1, 1, 0), 1);
     }
 }

@@ -284,16 +284,16 @@ public final class EdgesOfSheetsTest {
         items("s is as it was", x, 0, 0, 1, 2, 3, 4, 5);
         due("one, to the last", x.copy(0, 0, 1, 2, 1), 1);
         items("t", x, 1, 0, 3, 4, 1);
-        for (int s = 2; s < 4; s++) {
-            int form = s - 1;
+        int[] form = {0, 0, 1, 2};
+        for (int s : new int[] {0, 2, 3}) {
             due("up", x.copy(s, 0, s, 1, 4), 1);
-            items("as they were", x, s, form, 1, 1, 2, 3, 4);
+            items("as they were", x, s, form[s], 1, 1, 2, 3, 4);
             due("down", x.copy(s, 1, s, 0, 4), 1);
-            items("as they were", x, s, form, 1, 2, 3, 4, 4);
+            items("as they were", x, s, form[s], 1, 2, 3, 4, 4);
             due("by two up", x.copy(s, 0, s, 2, 3), 1);
-            items("as they were", x, s, form, 1, 2, 1, 2, 3);
+            items("as they were", x, s, form[s], 1, 2, 1, 2, 3);
             due("all onto themselves", x.copy(s, 0, s, 0, 5), 1);
-            items("as they were", x, s, form, 1, 2, 1, 2, 3);
+            items("as they were", x, s, form[s], 1, 2, 1, 2, 3);
         }
         WallHands most = new WallHands();
         most.sheet(0, 2, 60);
@@ -438,6 +438,51 @@ public final class EdgesOfSheetsTest {
         }
         due("one column, no hands", Edges.wall("a;.;b", "").digest(), digestOf(x -> tell(x, "a;.;b", ""), 1));
         due("no wall, hands", Edges.wall("", "p1;t2").digest(), digestOf(x -> tell(x, "", "p1;t2"), 0));
+    }
+
+    @Edge(promise = 37, sentence = {"at(0, it, 0 and 1), at(19, it, 0 and 1)", "column(9, it, 0 and 1), column(19, it, 0 and 1)",
+        "mend(5, 0 to 2)", "luck(5), above, below", "ages(7, 5, 0 and 1)"})
+    static void digestOfTheYearsThatAreNamed() {
+        due("each year something happens", Edges.made(EdgesOfSheetsTest::manyYears).digest(), digestOf(EdgesOfSheetsTest::manyYears, 6));
+        due("sheep get through here and there", Edges.made(EdgesOfSheetsTest::sheepHereAndThere).digest(), digestOf(EdgesOfSheetsTest::sheepHereAndThere, 2));
+        due("a mending of year 5", Edges.made(EdgesOfSheetsTest::toMend).digest(), digestOf(EdgesOfSheetsTest::toMend, 2));
+        due("seed 7, five frosts", Edges.made(EdgesOfSheetsTest::toAge).digest(), digestOf(EdgesOfSheetsTest::toAge, 2));
+    }
+
+    /** Stones fall or are set in years 0, 1, 8, 9, 10, 18 and 19. */
+    private static void manyYears(WallHands x) {
+        tell(x, "aabbcd;ddccba;aabbcd", "p4;t8;l5;p7");
+        int[][] frosts = {{0, 4}, {1, 5}, {9, 6}, {10, 7}, {18, 8}, {19, 9}};
+        for (int[] frost : frosts) x.frost(frost[0], frost[1]);
+        int[][] gappings = {{0, 2, 1}, {8, 3, 0}, {9, 1, 3}, {10, 4, 2}, {18, 5, 1}, {19, 0, 1}};
+        for (int[] gapping : gappings) x.gapping(gapping[0], gapping[1], gapping[2]);
+    }
+
+    /** Column 0 is closed behind year 9 alone of those beside it, column 1 is open behind year 19 alone. */
+    private static void sheepHereAndThere(WallHands x) {
+        tell(x, "a.;a.", "p1;p3");
+        x.frost(8, 3);
+        x.gapping(9, 0, 1);
+        x.frost(10, 4);
+        x.gapping(18, 1, 0);
+        x.frost(19, 2);
+        x.jump(1);
+    }
+
+    /** Mended in year 5: column 1, hand 2, sheep behind 19 years; in years 4 and 6: column 0, hand 0, behind 20. */
+    private static void toMend(WallHands x) {
+        tell(x, "ca", "l2;l9;t5");
+        x.frost(6, 8);
+        x.frost(5, 3);
+        x.jump(1);
+    }
+
+    /** By seed 7 the frosts are 12 12, 8 10, 11 14, 14 6, 5 2; a sixth would be 13 7. */
+    private static void toAge(WallHands x) {
+        tell(x, "ab;a.", "p6;p1;p9");
+        x.jump(1);
+        x.gapping(12, 0, 0);
+        x.gapping(12, 1, 2);
     }
 
     @Edge(promise = 37, sentence = "count() 0 to 7")

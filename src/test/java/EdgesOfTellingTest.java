@@ -18,6 +18,45 @@ public final class EdgesOfTellingTest {
         for (int i = 0; i < 6; i++) x.gapping(i, 1, 1);
     }
 
+    // ---- what is told shows at once
+
+    @Edge(promise = {2, 3, 4}, sentence = {"A byte (0 to 255) comes behind a text: how many.", "A text is empty: how many bytes it had.",
+        "The last byte of a text is undone: how many are left."})
+    static void textsShowAtOnce() {
+        for (int text = 0; text < 2; text++) {
+            int t = text;
+            Edges.showsAtOnce("wipe " + t, Edges::someOfAll, x -> x.wipe(t));
+            Edges.showsAtOnce("undo " + t, Edges::allFull, x -> x.undo(t));
+            Edges.showsAtOnce("type " + t, x -> {
+                Edges.allFull(x);
+                x.undo(t);
+            }, x -> x.type(t, t == 0 ? 'b' : '2'));
+        }
+    }
+
+    @Edge(promise = {8, 9, 10, 11, 12}, sentence = {"JUMP: what it was.", "A FROST more: how many.", "A GAPPING more: how many.",
+        "The last FROST (what = 0), GAPPING (1) is undone: how many are left.", "FROSTS from a SHEET"})
+    static void jumpFrostsAndGappingsShowAtOnce() {
+        Edges.showsAtOnce("jump", Edges::someOfAll, x -> x.jump(1));
+        Edges.showsAtOnce("frost", Edges::someOfAll, x -> x.frost(0, 5));
+        Edges.showsAtOnce("gapping", Edges::someOfAll, x -> x.gapping(8, 2, 0));
+        Edges.showsAtOnce("back 0", Edges::someOfAll, x -> x.back(0));
+        Edges.showsAtOnce("back 1", Edges::someOfAll, x -> x.back(1));
+        Edges.showsAtOnce("read", Edges::someOfAll, x -> x.read(0));
+        WallHands x = Edges.wall("a;a", "p1");
+        due("no sheep", x.sheep(1), 0);
+        x.jump(3);
+        due("a greater jump", x.sheep(1), 20);
+        x.gapping(9, 0, 0);
+        due("no place is left", x.sheep(1), 20);
+        x.frost(9, 3);
+        due("a frost: falls", x.falls(9), 2);
+        due("a frost: one is mended", x.column(9, 0, 0), 1);
+        Edges.fill(x, 0, 0, 10, 2);
+        x.read(0);
+        due("one that was read", x.falls(10), 1);
+    }
+
     // ---- promise 8
 
     @Edge(promise = 8, sentence = {"JUMP (1 to 5; 2 at first).", "JUMP: what it was. BAD."})

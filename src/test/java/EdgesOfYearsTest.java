@@ -151,6 +151,9 @@ public final class EdgesOfYearsTest {
         due("one of its own and one other", wall("aab", "t4;p1").at(0, 0, 1, 1), 4);
         due("three others, one of its own", wall("bbb;bab;.a.", "t4;p1").at(0, 1, 1, 1), 2);
         due("four of its own", wall("aaa;aaa;aaa", "t4").at(0, 1, 1, 1), 8);
+        WallHands alone = wall("bab", "t4;p1");
+        alone.frost(7, 2);
+        for (int year : new int[] {7, 6, 19, 0}) due("behind year " + year, alone.at(year, 0, 1, 1), year < 7 ? 2 : 4);
     }
 
     @Edge(promise = 13, sentence = "a lover's by 2 more, if a NEIGHBOUR (one or more) is of another HAND that is a lover")
@@ -322,6 +325,13 @@ public final class EdgesOfYearsTest {
         bridge.gapping(5, 1, 1);
         due("no place is left", bridge.column(5, 1, 0), 2);
         due("a stone on an empty course", stackedOnGap(), 1);
+        // the year's second gapping has no place; what the first one set still keeps sheep out
+        WallHands second = wall("a;.", "p1");
+        second.gapping(4, 0, 0);
+        second.gapping(4, 0, 0);
+        due("the second has no place", second.column(4, 0, 0), 2);
+        due("the first keeps sheep out", second.column(4, 0, 1), 0);
+        due("from its year on", second.sheep(1), 4);
     }
 
     /** A course of no stones is told too, and a gap in it is filled. */
