@@ -338,6 +338,13 @@ public final class EdgesOfSheetsTest {
         due("one column", one.write(0, 0), 1);
         items("one", one, 0, 0, 1, 7);
         Edges.leaves("no columns", x -> Edges.fill(x, 0, 0, 7, 7), x -> x.write(0, 0), 0, 0);
+        for (String none : new String[] {"", "a;", "x"}) {
+            Edges.leaves("no columns any more: '" + none + "'", x -> {
+                Edges.someOfAll(x);
+                x.wipe(0);
+                Edges.tell(x, 0, none);
+            }, x -> x.write(0, 0), 0, 0);
+        }
         Edges.leaves("no items", x -> {
             Edges.someOfAll(x);
             x.sheet(3, 2, 0);

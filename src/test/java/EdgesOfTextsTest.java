@@ -129,6 +129,23 @@ public final class EdgesOfTextsTest {
         due("jump stays", told.jump(2), 3);
     }
 
+    @Edge(promise = {3, 4, 11, 24}, sentence = {"A text is empty: how many bytes it had.", "The last byte of a text is undone: how many are left.",
+        "The last FROST (what = 0), GAPPING (1) is undone: how many are left.", "All SEEN are forgotten: how many."})
+    static void allUndoneIsAsAtFirst() {
+        long first = new WallHands().digest();
+        WallHands wiped = Edges.made(Edges::allFull), undone = Edges.made(Edges::allFull);
+        for (WallHands x : new WallHands[] {wiped, undone}) {
+            due("all is told", x.digest() == first ? 1 : 0, 0);
+            for (int i = 0; i < 6; i++) due("back", x.back(0) + x.back(1), 2 * (5 - i));
+            due("forget", x.forget(), 8);
+        }
+        due("wipe", wiped.wipe(0) + wiped.wipe(1), 44 + 23);
+        for (int i = 0; i < 44; i++) undone.undo(0);
+        for (int i = 0; i < 23; i++) undone.undo(1);
+        due("wiped", wiped.digest(), first);
+        due("undone", undone.digest(), first);
+    }
+
     @Edge(promise = 4, sentence = "The last byte of a text is undone: how many are left. BAD; NOT: it is empty.")
     static void undoDownToEmpty() {
         Edges.range("undo", 0, 1, (x, v) -> x.undo(v));
