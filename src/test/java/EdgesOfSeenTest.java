@@ -369,7 +369,7 @@ public final class EdgesOfSeenTest {
 
     // ---- promise 29
 
-    /** A seed, and the year and the force of each of its six frosts, reckoned by hand. */
+    /** A seed, and the year and the force of each of its six frosts, reckoned apart in Python. */
     private static final int[][] LOTS = {
         {0, 0, 12, 16, 1, 18, 1, 5, 10, 10, 11, 9, 8},
         {1, 18, 7, 13, 4, 19, 11, 18, 3, 0, 7, 9, 3},
