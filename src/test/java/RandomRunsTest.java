@@ -5,7 +5,7 @@ import java.util.Random;
 
 /** Runs by fixed seeds, each call made to WallHands and to PlainWall; the answers must be alike. */
 public final class RandomRunsTest {
-    private static final int RUNS = 400;
+    private static final int RUNS = 400, CALLS = 512;
     private static final int[] EDGES = {
         Integer.MIN_VALUE, -1000, -2, -1, 0, 1, 2, 3, 4, 5, 7, 8, 9, 15, 16, 19, 20, 59, 60, 61, 255, 256, Integer.MAX_VALUE};
 
@@ -19,9 +19,12 @@ public final class RandomRunsTest {
         random = new Random(seed);
     }
 
+    /** Without arguments the runs of .ci/run; else the first run's number and how many. */
     public static void main(String[] args) throws Exception {
         int wrong = 0;
-        for (int run = 0; run < RUNS && wrong < 5; run++) {
+        int first = args.length > 0 ? Integer.parseInt(args[0]) : 0;
+        int runs = args.length > 1 ? Integer.parseInt(args[1]) : RUNS;
+        for (int run = first; run < first + runs && wrong < 5; run++) {
             String fault = new RandomRunsTest(run).run(run);
             if (fault != null) {
                 wrong++;
@@ -40,13 +43,14 @@ public final class RandomRunsTest {
         }
         open.sort(java.util.Comparator.comparing(Method::getName));
         String fault = run % 8 == 7 ? null : tellStory();
-        while (fault == null && calls < 400) {
+        while (fault == null && calls < CALLS - 1) {
             Method method = open.get(random.nextInt(open.size()));
             // now and then a text is wiped, but seldom, so that walls stay long enough to be looked at
             boolean spoils = method.getName().equals("wipe") || method.getName().equals("type") || method.getName().equals("undo");
             if (spoils && random.nextInt(8) != 0) continue;
             fault = make(method.getName(), argumentsFor(method));
-            if (fault == null && random.nextInt(60) == 0) fault = tellStory();
+            // a story takes 44 + 23 bytes and 27 other calls at most; so the 512th call is digest
+            if (fault == null && calls < CALLS - 100 && random.nextInt(60) == 0) fault = tellStory();
         }
         return fault != null ? fault : make("digest");
     }
@@ -91,12 +95,13 @@ public final class RandomRunsTest {
         String fault = make("wipe", 0);
         if (fault == null) fault = make("wipe", 1);
         int columns = 1 + random.nextInt(8), courses = 1 + random.nextInt(5), hands = 1 + random.nextInt(8);
-        int letters = Math.min(8, hands + random.nextInt(2));
+        int letters = random.nextInt(4) == 0 ? 8 : Math.min(8, hands + random.nextInt(2));
+        int fullCourses = random.nextInt(2);
         for (int i = 0; i < courses && fault == null; i++) {
             int holes = 1 + random.nextInt(12);
             if (i > 0) fault = make("type", 0, ';');
             for (int j = 0; j < columns && fault == null; j++) {
-                fault = make("type", 0, random.nextInt(holes) == 0 && i > 0 ? '.' : 'a' + random.nextInt(letters));
+                fault = make("type", 0, random.nextInt(holes) == 0 && i >= fullCourses ? '.' : 'a' + random.nextInt(letters));
             }
         }
         for (int i = 0; i < hands && fault == null; i++) {
@@ -107,7 +112,7 @@ public final class RandomRunsTest {
         if (fault == null && random.nextInt(3) == 0) fault = readSome();
         int frosts = random.nextInt(4), gappings = random.nextInt(4);
         for (int i = 0; i < frosts && fault == null; i++) {
-            fault = make("frost", random.nextInt(4) * 5, 1 + random.nextInt(9));
+            fault = make("frost", random.nextInt(4) * 5, 1 + random.nextInt(random.nextInt(3) == 0 ? 15 : 9));
         }
         for (int i = 0; i < gappings && fault == null; i++) {
             fault = make("gapping", random.nextInt(20), random.nextInt(columns), random.nextInt(hands));
